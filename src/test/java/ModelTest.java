@@ -1,0 +1,154 @@
+import java.util.Random;
+import java.util.function.IntSupplier;
+
+/** Random runs of at most 512 calls, each answer compared with the model's. */
+public final class ModelTest {
+    private static final String[] PATHS = {
+        "/", "/a", "/b", "/c", "/a/a", "/a/b", "/b/a", "/b/b", "/a/a/a", "/a/b/c", "/a/../b", "/..", "/b/../../a/c", "/h", "/d/e", "/c/c",
+    };
+    private static final String[] WRONG = {
+        "", "//", "/a/", "a", "/i", "/.", "/...", "/a/.", "/ab", "/A", "/a//b", "..", "/a..", "/..a", "/a\u0161",
+    };
+
+    private final Random random;
+    private final NameSpaces x = new NameSpaces();
+    private final Model model = new Model();
+    private final StringBuilder log = new StringBuilder();
+    private int calls;
+
+    private ModelTest(long seed) {
+        random = new Random(seed);
+    }
+
+    public static void main(String[] args) {
+        for (int seed = 0; seed < 4000; seed++) {
+            new ModelTest(seed).run(seed);
+        }
+        Session.end("ModelTest");
+    }
+
+    private void run(int seed) {
+        while (calls < 480) {
+            step(seed);
+            everything(seed);
+        }
+    }
+
+    private void compare(int seed, String call, IntSupplier own, IntSupplier other) {
+        calls++;
+        log.append(call).append('\n');
+        int got = Session.answer(own);
+        int want = Session.answer(other);
+        if (got != want) {
+            System.out.println("seed " + seed + ":\n" + log);
+        }
+        Session.due("seed " + seed + ": " + call, got, want);
+        if (got != want) {
+            Session.end("ModelTest");
+        }
+    }
+
+    /* These do not change anything, so they are not counted as calls. */
+    private void everything(int seed) {
+        boolean same = true;
+        for (int which = -1; which <= 2; which++) {
+            for (int i = -2; i <= 21; i++) {
+                same &= x.wire(which, i) == model.wire(which, i);
+            }
+        }
+        for (int s = -1; s <= 2; s++) {
+            for (int what = -1; what <= 4; what++) {
+                same &= x.server(s, what) == model.server(s, what);
+            }
+        }
+        for (int p = -1; p <= 4; p++) {
+            for (int what = -1; what <= 4; what++) {
+                same &= x.process(p, what) == model.process(p, what);
+            }
+        }
+        if (!same) {
+            System.out.println("seed " + seed + ":\n" + log);
+            Session.due("seed " + seed + ": wire, server and process as in the model", 0, 1);
+            Session.end("ModelTest");
+        }
+    }
+
+    private void typePath(int seed) {
+        String path = random.nextInt(40) == 0 ? WRONG[random.nextInt(WRONG.length)] : PATHS[random.nextInt(PATHS.length)];
+        for (char c : path.toCharArray()) {
+            compare(seed, "type " + c, () -> x.type(c), () -> model.type(c));
+        }
+    }
+
+    private int process() {
+        if (random.nextInt(25) == 0) {
+            return random.nextInt(6) - 1;
+        }
+        int p = random.nextInt(4);
+        return model.procs[p] == null ? 0 : p;
+    }
+
+    private int how() {
+        return random.nextInt(30) == 0 ? random.nextInt(12) - 4 : new int[] {0, 1, 2, 4, 5, 6}[random.nextInt(6)];
+    }
+
+    private void step(int seed) {
+        int p = process();
+        int file = random.nextInt(30) == 0 ? random.nextInt(8) - 1 : random.nextInt(5);
+        int mode = random.nextInt(40) == 0 ? random.nextInt(6) - 2 : random.nextInt(3);
+        int b = random.nextInt(20) == 0 ? random.nextInt(700) - 200 : random.nextInt(256);
+        int how = how();
+        boolean flag = random.nextInt(3) > 0;
+        switch (random.nextInt(24)) {
+            case 0: case 1: case 2:
+                typePath(seed);
+                compare(seed, "open " + p + " " + mode, () -> x.open(p, mode), () -> model.open(p, mode));
+                break;
+            case 3: case 4: case 5: case 6:
+                typePath(seed);
+                compare(seed, "create " + p + " " + flag, () -> x.create(p, flag), () -> model.create(p, flag));
+                break;
+            case 7: case 8: case 9: case 10:
+                compare(seed, "read " + p + " " + file, () -> x.read(p, file), () -> model.read(p, file));
+                break;
+            case 11: case 12:
+                compare(seed, "write " + p + " " + file + " " + b, () -> x.write(p, file, b), () -> model.write(p, file, b));
+                break;
+            case 13: case 14: case 15:
+                compare(seed, "close " + p + " " + file, () -> x.close(p, file), () -> model.close(p, file));
+                break;
+            case 16:
+                typePath(seed);
+                compare(seed, "remove " + p, () -> x.remove(p), () -> model.remove(p));
+                break;
+            case 17:
+                typePath(seed);
+                compare(seed, "stat " + p, () -> x.stat(p), () -> model.stat(p));
+                break;
+            case 18: case 19:
+                typePath(seed);
+                compare(seed, "keep", () -> x.keep(), () -> model.keep());
+                typePath(seed);
+                compare(seed, "bind " + p + " " + how, () -> x.bind(p, how), () -> model.bind(p, how));
+                break;
+            case 20:
+                int server = random.nextInt(20) == 0 ? random.nextInt(5) - 2 : random.nextInt(2);
+                typePath(seed);
+                compare(seed, "mount " + p + " " + server + " " + how, () -> x.mount(p, server, how), () -> model.mount(p, server, how));
+                break;
+            case 21:
+                typePath(seed);
+                compare(seed, "unmount " + p, () -> x.unmount(p), () -> model.unmount(p));
+                break;
+            case 22:
+                compare(seed, "fork " + p + " " + flag, () -> x.fork(p, flag), () -> model.fork(p, flag));
+                break;
+            default:
+                if (random.nextInt(3) == 0) {
+                    compare(seed, "exit " + p, () -> x.exit(p), () -> model.exit(p));
+                } else {
+                    typePath(seed);
+                }
+        }
+    }
+}
