@@ -1,11 +1,8 @@
 import java.util.Random;
 import java.util.function.IntSupplier;
 
-/** Random runs of at most 512 calls, each answer compared with the model's. */
+/** Random runs, each answer and all that can be asked after it compared with the model's. */
 public final class ModelTest {
-    private static final String[] PATHS = {
-        "/", "/a", "/b", "/c", "/a/a", "/a/b", "/b/a", "/b/b", "/a/a/a", "/a/b/c", "/a/../b", "/..", "/b/../../a/c", "/h", "/d/e", "/c/c",
-    };
     private static final String[] WRONG = {
         "", "//", "/a/", "a", "/i", "/.", "/...", "/a/.", "/ab", "/A", "/a//b", "..", "/a..", "/..a", "/a\u0161",
     };
@@ -14,28 +11,34 @@ public final class ModelTest {
     private final NameSpaces x = new NameSpaces();
     private final Model model = new Model();
     private final StringBuilder log = new StringBuilder();
-    private int calls;
+    /* Few letters make a deep tree that is met again, many fill a server. */
+    private final int letters;
 
     private ModelTest(long seed) {
         random = new Random(seed);
+        letters = random.nextInt(3) == 0 ? 8 : 2;
     }
 
     public static void main(String[] args) {
-        for (int seed = 0; seed < 4000; seed++) {
+        for (int seed = 0; seed < 3000; seed++) {
             new ModelTest(seed).run(seed);
         }
         Session.end("ModelTest");
     }
 
     private void run(int seed) {
-        while (calls < 480) {
+        for (String path : new String[] {"/a", "/b", "/a/b"}) {
+            typeText(seed, path);
+            compare(seed, "create 0 true", () -> x.create(0, true), () -> model.create(0, true));
+            compare(seed, "close 0 0", () -> x.close(0, 0), () -> model.close(0, 0));
+        }
+        for (int steps = 0; steps < 250; steps++) {
             step(seed);
             everything(seed);
         }
     }
 
     private void compare(int seed, String call, IntSupplier own, IntSupplier other) {
-        calls++;
         log.append(call).append('\n');
         int got = Session.answer(own);
         int want = Session.answer(other);
@@ -48,7 +51,6 @@ public final class ModelTest {
         }
     }
 
-    /* These do not change anything, so they are not counted as calls. */
     private void everything(int seed) {
         boolean same = true;
         for (int which = -1; which <= 2; which++) {
@@ -74,10 +76,32 @@ public final class ModelTest {
     }
 
     private void typePath(int seed) {
-        String path = random.nextInt(40) == 0 ? WRONG[random.nextInt(WRONG.length)] : PATHS[random.nextInt(PATHS.length)];
-        for (char c : path.toCharArray()) {
+        typeText(seed, random.nextInt(40) == 0 ? WRONG[random.nextInt(WRONG.length)] : path());
+    }
+
+    private void typeText(int seed, String text) {
+        for (char c : text.toCharArray()) {
             compare(seed, "type " + c, () -> x.type(c), () -> model.type(c));
         }
+    }
+
+    private String path() {
+        StringBuilder path = new StringBuilder();
+        int names = random.nextInt(4);
+        for (int i = 0; i < names; i++) {
+            path.append('/').append(random.nextInt(12) == 0 ? ".." : "" + (char) ('a' + random.nextInt(letters)));
+        }
+        return names == 0 ? "/" : path.toString();
+    }
+
+    private int file(int p) {
+        int file = random.nextInt(5);
+        for (int i = 0; i < 5; i++) {
+            if (p >= 0 && p < 4 && model.procs[p] != null && model.procs[p].files[file] == null) {
+                file = (file + 1) % 5;
+            }
+        }
+        return random.nextInt(30) == 0 ? random.nextInt(8) - 1 : file;
     }
 
     private int process() {
@@ -94,12 +118,12 @@ public final class ModelTest {
 
     private void step(int seed) {
         int p = process();
-        int file = random.nextInt(30) == 0 ? random.nextInt(8) - 1 : random.nextInt(5);
+        int file = file(p);
         int mode = random.nextInt(40) == 0 ? random.nextInt(6) - 2 : random.nextInt(3);
         int b = random.nextInt(20) == 0 ? random.nextInt(700) - 200 : random.nextInt(256);
         int how = how();
         boolean flag = random.nextInt(3) > 0;
-        switch (random.nextInt(24)) {
+        switch (random.nextInt(28)) {
             case 0: case 1: case 2:
                 typePath(seed);
                 compare(seed, "open " + p + " " + mode, () -> x.open(p, mode), () -> model.open(p, mode));
@@ -111,8 +135,10 @@ public final class ModelTest {
             case 7: case 8: case 9: case 10:
                 compare(seed, "read " + p + " " + file, () -> x.read(p, file), () -> model.read(p, file));
                 break;
-            case 11: case 12:
-                compare(seed, "write " + p + " " + file + " " + b, () -> x.write(p, file, b), () -> model.write(p, file, b));
+            case 11: case 12: case 24: case 25:
+                for (int again = random.nextInt(4); again >= 0; again--) {
+                    compare(seed, "write " + p + " " + file + " " + b, () -> x.write(p, file, b), () -> model.write(p, file, b));
+                }
                 break;
             case 13: case 14: case 15:
                 compare(seed, "close " + p + " " + file, () -> x.close(p, file), () -> model.close(p, file));
@@ -131,7 +157,7 @@ public final class ModelTest {
                 typePath(seed);
                 compare(seed, "bind " + p + " " + how, () -> x.bind(p, how), () -> model.bind(p, how));
                 break;
-            case 20:
+            case 20: case 26:
                 int server = random.nextInt(20) == 0 ? random.nextInt(5) - 2 : random.nextInt(2);
                 typePath(seed);
                 compare(seed, "mount " + p + " " + server + " " + how, () -> x.mount(p, server, how), () -> model.mount(p, server, how));
