@@ -440,28 +440,22 @@ public final class NameSpaces {
         return error;
     }
 
-    private int walkSame(int s, int handle) {
-        Server server = to(s);
-        int fresh = server.newHandle();
-        server.walkNowhere(handle, fresh);
-        return fresh;
-    }
-
     private void letGo(int s, int handle) {
         if (!isBeginning(s, handle)) {
             to(s).clunk(handle);
         }
     }
 
+    /* Members and handles of open files, of which none is the beginning. */
     private void clunkAll(Handles handles) {
         for (int i = 0; i < handles.count; i++) {
-            letGo(handles.serverAt(i), handles.handleAt(i));
+            to(handles.serverAt(i)).clunk(handles.handleAt(i));
         }
     }
 
     /* What was walked to, to be kept: the beginning itself is nobody's own. */
     private int ownHandle() {
-        return isBeginning(atServer, atHandle) ? walkSame(atServer, atHandle) : atHandle;
+        return isBeginning(atServer, atHandle) ? to(atServer).walkSame(atHandle) : atHandle;
     }
 
     private void takeHandles(NameSpace space, OpenFile file) {
@@ -479,7 +473,7 @@ public final class NameSpaces {
     private void copyHandles(Handles from, Handles copy) {
         for (int i = 0; i < from.count; i++) {
             int s = from.serverAt(i);
-            copy.insert(copy.count, s, walkSame(s, from.handleAt(i)), from.mayMake(i));
+            copy.insert(copy.count, s, to(s).walkSame(from.handleAt(i)), from.mayMake(i));
         }
     }
 
@@ -511,15 +505,14 @@ public final class NameSpaces {
             throw new UnsupportedOperationException("files may be made in no member");
         }
         int s = from.serverAt(maker);
-        int handle = walkSame(s, from.handleAt(maker));
+        int handle = to(s).walkSame(from.handleAt(maker));
         letGo(atServer, atHandle);
-        Server server = to(s);
-        char error = server.makeFile(handle, textPath.name(textPath.count - 1), directory);
+        char error = to(s).makeFile(handle, textPath.name(textPath.count - 1), directory);
         if (error != NO_ERROR) {
             letGo(s, handle);
             refuseMaking(error);
         }
-        server.openFile(handle, directory ? READING : BOTH);
+        to(s).openFile(handle, directory ? READING : BOTH);
         file.handles.count = 0;
         file.handles.insert(0, s, handle, false);
         file.everHad = 1;
@@ -794,12 +787,15 @@ public final class NameSpaces {
             describe(ATTACH, files[0]);
         }
 
-        void walkNowhere(int handle, int fresh) {
+        /* Without a name there are no errors: the answer is the new handle. */
+        int walkSame(int handle) {
+            int fresh = newHandle();
             ask(WALK, handle);
             asked.put(fresh, 4);
             asked.put(0, 2);
             stand(fresh, fileOf(handle));
             agree(WALK);
+            return fresh;
         }
 
         char walkName(int handle, int fresh, char name) {

@@ -101,26 +101,30 @@ public final class ModelTest {
                 file = (file + 1) % 5;
             }
         }
-        return random.nextInt(30) == 0 ? random.nextInt(8) - 1 : file;
+        return random.nextInt(30) == 0 ? wild(random.nextInt(8) - 1) : file;
+    }
+
+    private int wild(int tame) {
+        return random.nextInt(3) > 0 ? tame : random.nextBoolean() ? Integer.MIN_VALUE : Integer.MAX_VALUE - random.nextInt(3);
     }
 
     private int process() {
         if (random.nextInt(25) == 0) {
-            return random.nextInt(6) - 1;
+            return wild(random.nextInt(6) - 1);
         }
         int p = random.nextInt(4);
         return model.procs[p] == null ? 0 : p;
     }
 
     private int how() {
-        return random.nextInt(30) == 0 ? random.nextInt(12) - 4 : new int[] {0, 1, 2, 4, 5, 6}[random.nextInt(6)];
+        return random.nextInt(30) == 0 ? wild(random.nextInt(12) - 4) : new int[] {0, 1, 2, 4, 5, 6}[random.nextInt(6)];
     }
 
     private void step(int seed) {
         int p = process();
         int file = file(p);
-        int mode = random.nextInt(40) == 0 ? random.nextInt(6) - 2 : random.nextInt(3);
-        int b = random.nextInt(20) == 0 ? random.nextInt(700) - 200 : random.nextInt(256);
+        int mode = random.nextInt(40) == 0 ? wild(random.nextInt(6) - 2) : random.nextInt(3);
+        int b = random.nextInt(20) == 0 ? wild(random.nextInt(700) - 200) : random.nextInt(256);
         int how = how();
         boolean flag = random.nextInt(3) > 0;
         switch (random.nextInt(28)) {
@@ -158,7 +162,7 @@ public final class ModelTest {
                 compare(seed, "bind " + p + " " + how, () -> x.bind(p, how), () -> model.bind(p, how));
                 break;
             case 20: case 26:
-                int server = random.nextInt(20) == 0 ? random.nextInt(5) - 2 : random.nextInt(2);
+                int server = random.nextInt(20) == 0 ? wild(random.nextInt(5) - 2) : random.nextInt(2);
                 typePath(seed);
                 compare(seed, "mount " + p + " " + server + " " + how, () -> x.mount(p, server, how), () -> model.mount(p, server, how));
                 break;

@@ -47,5 +47,16 @@ public final class Promise10StatTest {
         Session.due("none has it", s.stat(0, "/a/e"), Session.NO_SUCH_ELEMENT);
         Session.due("walk, two walks, clunk", s.messages(0) - sent, 4);
         Session.due("only the members stay", s.handles(0), 3);
+        goneMembers();
+    }
+
+    private static void goneMembers() {
+        Session s = new Session().directories("/a", "/b");
+        s.bind(0, "/b", "/a", 0);
+        s.remove(0, "/b");
+        Session.due("the only member is gone", s.stat(0, "/a/c"), Session.NO_SUCH_ELEMENT);
+        s.mount(0, 1, "/a", 6);
+        s.files("/a/c");
+        Session.due("the next one is asked", s.stat(0, "/a/c"), 102);
     }
 }
