@@ -1,14 +1,17 @@
 import java.util.Random;
 import java.util.function.IntSupplier;
 
-/** Random runs, each answer and all that can be asked after it compared with the model's. */
+/** Random runs within the calls that an object has, each answer compared with the model's. */
 public final class ModelTest {
     private static final String[] WRONG = {
         "", "//", "/a/", "a", "/i", "/.", "/...", "/a/.", "/ab", "/A", "/a//b", "..", "/a..", "/..a", "/a\u0161",
     };
 
+    /* Enough for all that can be asked at the end of a run, and for the longest step before it. */
+    private static final int CALLS_KEPT_BACK = 150;
+
     private final Random random;
-    private final NameSpaces x = new NameSpaces();
+    private final Counted x = new Counted();
     private final Model model = new Model();
     private final StringBuilder log = new StringBuilder();
     /* Few letters make a deep tree that is met again, many fill a server. */
@@ -20,22 +23,25 @@ public final class ModelTest {
     }
 
     public static void main(String[] args) {
-        for (int seed = 0; seed < 3000; seed++) {
+        for (int seed = 0; seed < 12000; seed++) {
             new ModelTest(seed).run(seed);
         }
         Session.end("ModelTest");
     }
 
+    /* Runs of every length, so that all is asked after any kind of step. */
     private void run(int seed) {
         for (String path : new String[] {"/a", "/b", "/a/b"}) {
             typeText(seed, path);
             compare(seed, "create 0 true", () -> x.create(0, true), () -> model.create(0, true));
             compare(seed, "close 0 0", () -> x.close(0, 0), () -> model.close(0, 0));
         }
-        for (int steps = 0; steps < 250; steps++) {
+        int spared = CALLS_KEPT_BACK + random.nextInt(Counted.MOST_CALLS - CALLS_KEPT_BACK - 20);
+        while (x.callsLeft() > spared) {
             step(seed);
-            everything(seed);
+            glance(seed);
         }
+        everything(seed);
     }
 
     private void compare(int seed, String call, IntSupplier own, IntSupplier other) {
@@ -51,27 +57,43 @@ public final class ModelTest {
         }
     }
 
+    private void wire(int seed, int which, int i) {
+        compare(seed, "wire " + which + " " + i, () -> x.wire(which, i), () -> model.wire(which, i));
+    }
+
+    private void server(int seed, int s, int what) {
+        compare(seed, "server " + s + " " + what, () -> x.server(s, what), () -> model.server(s, what));
+    }
+
+    private void process(int seed, int p, int what) {
+        compare(seed, "process " + p + " " + what, () -> x.process(p, what), () -> model.process(p, what));
+    }
+
+    private void glance(int seed) {
+        wire(seed, random.nextInt(2), new int[] {4, 7, 9, 11, random.nextInt(24) - 2}[random.nextInt(5)]);
+        server(seed, random.nextInt(2), random.nextInt(2));
+        if (random.nextInt(10) == 0) {
+            wire(seed, random.nextInt(5) - 1, random.nextInt(30) - 3);
+            server(seed, random.nextInt(5) - 1, random.nextInt(6) - 1);
+            process(seed, random.nextInt(6) - 1, random.nextInt(6) - 1);
+        }
+    }
+
     private void everything(int seed) {
-        boolean same = true;
-        for (int which = -1; which <= 2; which++) {
-            for (int i = -2; i <= 21; i++) {
-                same &= x.wire(which, i) == model.wire(which, i);
+        for (int which = 0; which <= 1; which++) {
+            for (int i = -1; i <= 20; i++) {
+                wire(seed, which, i);
             }
         }
-        for (int s = -1; s <= 2; s++) {
-            for (int what = -1; what <= 4; what++) {
-                same &= x.server(s, what) == model.server(s, what);
+        for (int s = 0; s <= 1; s++) {
+            for (int what = 0; what <= 3; what++) {
+                server(seed, s, what);
             }
         }
-        for (int p = -1; p <= 4; p++) {
-            for (int what = -1; what <= 4; what++) {
-                same &= x.process(p, what) == model.process(p, what);
+        for (int p = 0; p <= 3; p++) {
+            for (int what = 0; what <= 3; what++) {
+                process(seed, p, what);
             }
-        }
-        if (!same) {
-            System.out.println("seed " + seed + ":\n" + log);
-            Session.due("seed " + seed + ": wire, server and process as in the model", 0, 1);
-            Session.end("ModelTest");
         }
     }
 

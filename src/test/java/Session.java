@@ -12,8 +12,10 @@ final class Session {
 
     private static int wrong = 0;
     private static int asked = 0;
+    private static String words = "";
 
-    final NameSpaces x = new NameSpaces();
+    final Counted x = new Counted();
+    private final int[] marked = new int[2];
 
     static int answer(IntSupplier call) {
         try {
@@ -40,7 +42,7 @@ final class Session {
         asked++;
         if (got != want) {
             wrong++;
-            System.out.println(what + " answered " + name(got) + ", due is " + name(want));
+            System.out.println(words + what + " answered " + name(got) + ", due is " + name(want));
         }
     }
 
@@ -52,6 +54,13 @@ final class Session {
             case UNSUPPORTED: return "throws.UnsupportedOperationException";
             default: return Integer.toString(answer);
         }
+    }
+
+    /** A test of one sentence of the document, whose words stand before what it finds wrong. */
+    static void sentence(String said, Runnable test) {
+        words = "'" + said + "': ";
+        test.run();
+        words = "";
     }
 
     static void end(String title) {
@@ -151,6 +160,34 @@ final class Session {
         return answer(() -> x.exit(p));
     }
 
+    /** Counts the messages from here on. */
+    void mark() {
+        marked[0] = messages(0);
+        marked[1] = messages(1);
+    }
+
+    /** How many messages each server has had since the mark. */
+    void dueSent(String what, int first, int second) {
+        due(what + ": messages to server 0", messages(0) - marked[0], first);
+        due(what + ": messages to server 1", messages(1) - marked[1], second);
+    }
+
+    /** The latest message, by its type and its handle. */
+    void dueLatest(String what, int type, int handle) {
+        due(what + ": type of the latest message", x.wire(0, 4), type);
+        due(what + ": handle of the latest message", x.wire(0, 7), handle);
+    }
+
+    void dueError(String what, char letter) {
+        due(what + ": type of the reply", x.wire(1, 4), 107);
+        due(what + ": letter of the error", x.wire(1, 9), letter);
+    }
+
+    void dueHandles(String what, int first, int second) {
+        due(what + ": handles of server 0", handles(0), first);
+        due(what + ": handles of server 1", handles(1), second);
+    }
+
     int messages(int s) {
         return x.server(s, 0);
     }
@@ -161,7 +198,8 @@ final class Session {
 
     private List<Integer> bytes(int which) {
         List<Integer> bytes = new ArrayList<>();
-        for (int i = 0; i < x.wire(which, -1); i++) {
+        int length = x.wire(which, -1);
+        for (int i = 0; i < length; i++) {
             bytes.add(x.wire(which, i));
         }
         return bytes;
@@ -175,7 +213,7 @@ final class Session {
         }
         List<Integer> got = bytes(which);
         if (!got.equals(due)) {
-            System.out.println(what + ": bytes " + got + ", due are " + due);
+            System.out.println(words + what + ": bytes " + got + ", due are " + due);
         }
         due(what + ": the bytes are as due", got.equals(due) ? 1 : 0, 1);
     }
