@@ -73,6 +73,16 @@ public final class EdgeBindTest extends Edge {
         s.mark();
         due("what is bound is walked before the members go", s.mount(0, 1, "/a", 0), 1);
         s.dueSent("walk, clunk, and attach, clunk", 2, 2);
+        for (int first = 0; first <= 1; first++) {
+            Session t = new Session();
+            for (int i = 0; i < 3; i++) {
+                t.mount(0, first, "/", i == 0 ? 0 : 2);
+            }
+            t.mark();
+            due("at the beginning, in place of 1, 2 and 3", t.mount(0, 1, "/", 0), 1);
+            t.dueSent("three clunks, and attach", first == 0 ? 3 : 0, first == 0 ? 1 : 4);
+            t.dueLatest("the last of them", CLUNK, 3);
+        }
     }
 
     private static void beforeAndBehind() {
@@ -304,6 +314,8 @@ public final class EdgeBindTest extends Edge {
         Session s = new Session().directories("/a");
         s.keep("no path");
         due("what is kept is no path", s.mount(0, 1, "/a", 0), 1);
+        s.keep("/a/");
+        due("what is kept begins like a path", s.mount(0, 1, "/a", 0), 1);
         s.keep("/h");
         due("what is kept is not found", s.mount(0, 1, "/a", 0), 1);
         due("nothing is kept", s.mount(0, 1, "/a", 0), 1);

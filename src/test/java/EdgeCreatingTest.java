@@ -37,6 +37,7 @@ public final class EdgeCreatingTest extends Edge {
         s.mark();
         due("the second of three", s.file(0, "/a/h"), 0);
         s.dueSent("walk, walk, clunk, create, open", 5, 0);
+        s.dueLatest("its copy was made before what was walked to was clunked", OPEN, 4);
         due("in /c", s.stat(0, "/c/h"), 8);
         due("a name that the first that may has", s.file(0, "/a/h"), UNSUPPORTED);
         due("the third has nothing", s.x.server(1, 2), 1);

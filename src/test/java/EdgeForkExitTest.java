@@ -108,6 +108,13 @@ public final class EdgeForkExitTest extends Edge {
         s.mount(0, 0, "/a", 0);
         s.fork(0, false);
         s.dueBytes("a place that gets another list too", 0, 17, 0, 0, 0, 110, 1, 0, 1, 0, 0, 0, 5, 0, 0, 0, 0, 0);
+        Session t = new Session().directories("/a", "/b", "/c");
+        for (String path : new String[] {"/a", "/b", "/c"}) {
+            t.mount(0, 1, path, 0);
+        }
+        t.unmount(0, "/a");
+        t.fork(0, false);
+        t.dueBytes("when the first of three went, the third is still the last", 0, 17, 0, 0, 0, 110, 1, 0, 3, 0, 0, 0, 4, 0, 0, 0, 0, 0);
     }
 
     private static void four() {
@@ -194,12 +201,23 @@ public final class EdgeForkExitTest extends Edge {
         s.dueSent("a clunk each", 1, 1);
         s.dueBytes("that of server 1 is the last", 0, 11, 0, 0, 0, 120, 1, 0, 1, 0, 0, 0);
         s.fork(0, false);
-        s.mount(1, 1, "/a", 0);
-        s.mount(1, 0, "/a", 1);
+        for (int how : new int[] {0, 2, 2}) {
+            s.mount(1, 0, "/a", how);
+        }
         s.open(1, "/", 0);
-        due("first the file, then the members", s.exit(1), 1);
-        s.dueLatest("of server 1 is the last", CLUNK, 1);
-        due("the handle of the file was another", s.handles(0), 1);
+        due("first the file, then the members 1, 2 and 3", s.exit(1), 1);
+        s.dueLatest("the third is the last", CLUNK, 3);
+        s.fork(0, false);
+        for (int how : new int[] {0, 1, 1}) {
+            s.mount(1, 0, "/a", how);
+        }
+        due("the members 3, 2 and 1", s.exit(1), 1);
+        s.dueLatest("the third is the last", CLUNK, 1);
+        s.fork(0, false);
+        s.mount(1, 0, "/a", 0);
+        s.mount(1, 0, "/", 0);
+        due("the places /a and /", s.exit(1), 1);
+        s.dueLatest("the second one's is the last", CLUNK, 2);
     }
 
     private static void somebodyElse() {

@@ -78,12 +78,17 @@ public final class EdgeHandlesTest extends Edge {
         s.dueLatest("it is what each opening walked to before the members' copies", CLUNK, 49);
         due("the other one, behind all, and M", s.mount(3, 0, "/a", 1), STATE);
         s.dueLatest("M was the first of them", CLUNK, 49);
+        due("two names, the second behind all", s.stat(3, "/a/b"), 5);
+        s.dueLatest("the second", CLUNK, 110);
+        due("M, and again two names", s.bind(3, "/a/b", "/a/b", 0), 1);
+        s.dueLatest("M is 110, the other one", CLUNK, 111);
+        due("two members less", s.handles(0), 107);
         due("the last file is read", s.read(3, 4), 'a');
         s.dueLatest("by the first of its handles 107 .. 109", READ, 107);
         for (int p = 3; p > 0; p--) {
             s.mark();
             due("exit", s.exit(p), p);
-            s.dueSent("fifteen handles and twelve members", 27, 0);
+            s.dueSent("fifteen handles and twelve members, of process 3 ten", p == 3 ? 25 : 27, 0);
         }
         due("process 0 has its own", s.handles(0), 28);
     }

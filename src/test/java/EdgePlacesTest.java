@@ -173,6 +173,7 @@ public final class EdgePlacesTest extends Edge {
         s.mark();
         due("across a member", s.stat(0, "/a/c"), 6);
         s.dueSent("walk, walk, clunk of the place's handle, stat, clunk", 5, 0);
+        s.dueLatest("which stood until the new one did", CLUNK, 3);
         s.dueHandles("the member stays", 2, 1);
         s.bind(0, "/a", "/", 0);
         due("across a member of the beginning", s.stat(0, "/b"), 5);

@@ -22,12 +22,18 @@ public final class EdgeUnmountTest extends Edge {
         due("of three members", s.unmount(0, "/a"), 0);
         s.dueSent("walk, clunk, clunk, and two clunks", 3, 2);
         s.dueHandles("nothing is left behind", 1, 1);
+        s.open(0, "/", 0);
+        s.mount(0, 1, "/", 2);
         s.mount(0, 1, "/", 2);
         s.mark();
-        due("at the beginning", s.unmount(0, "/"), 0);
-        s.dueSent("clunk, and clunk", 1, 1);
-        due("the last member of server 1 is the last", s.x.wire(0, 7), 1);
-        s.dueHandles("nothing is left behind", 1, 1);
+        due("at the beginning, which is not clunked", s.unmount(0, "/"), 0);
+        s.dueSent("clunk, and two clunks", 1, 2);
+        s.dueLatest("the last of the members 2, and 1 and 2 of server 1", CLUNK, 2);
+        s.dueBytes("of server 1", 1, 7, 0, 0, 0, 121, 1, 0);
+        s.dueHandles("the open file is left", 2, 1);
+        s.mount(0, 1, "/", 1);
+        due("the other way round", s.unmount(0, "/"), 0);
+        s.dueLatest("the beginning's own handle is the last", CLUNK, 2);
     }
 
     private static void othersStay() {
