@@ -5,6 +5,7 @@ public final class EdgeFilesTest extends Edge {
         sentence("the first is the root, a directory", EdgeFilesTest::root);
         sentence("the root 0; then 1, 2, .. in the order of making, per server", EdgeFilesTest::serials);
         sentence("a letter a .. h as NAME", EdgeFilesTest::letters);
+        sentence("a directory in which it is", EdgeFilesTest::sameNames);
         sentence("has at most 8 BYTES", EdgeFilesTest::eightBytes);
         sentence("a VERSION: how many bytes were ever written to it", EdgeFilesTest::versions);
         sentence("a VERSION: how many bytes were ever written to it", EdgeFilesTest::versionBeyondAByte);
@@ -78,6 +79,22 @@ public final class EdgeFilesTest extends Edge {
         due("before a", s.file(0, "/`"), ARGUMENT);
         due("behind h", s.file(0, "/i"), ARGUMENT);
         due("nine files with the root", s.x.server(0, 2), 9);
+    }
+
+    private static void sameNames() {
+        Session s = new Session().directories("/a", "/b", "/a/a").files("/b/a", "/a/a/a");
+        due("the directory", s.stat(0, "/a"), 3);
+        due("the one in it", s.stat(0, "/a/a"), 7);
+        due("the one in another", s.stat(0, "/b/a"), 8);
+        due("the one in that in it", s.stat(0, "/a/a/a"), 10);
+        s.mount(0, 1, "/b", 4);
+        s.files("/b/a");
+        due("the one on the other server", s.stat(0, "/b/a"), 102);
+        s.open(0, "/a", 0);
+        due("one is in it", s.read(0, 0), 'a');
+        due("and no other", s.read(0, 0), -1);
+        due("one of them goes", s.remove(0, "/a/a/a"), 5);
+        due("the others stay", s.stat(0, "/a/a"), 7);
     }
 
     private static void eightBytes() {

@@ -13,6 +13,7 @@ public final class EdgePlacesTest extends Edge {
         sentence("then the handle where one was is clunked (never the beginning, nor a member), and one is at the new one", EdgePlacesTest::clunked);
         sentence("When none succeeds: that handle is clunked likewise", EdgePlacesTest::noneSucceeds);
         sentence("NoSuchElementException, or, if the last error was d, UnsupportedOperationException.", EdgePlacesTest::lastError);
+        sentence("All that is walked to and not needed any more is clunked, but never the beginning.", EdgePlacesTest::nothingLeft);
         Session.end("edges of places");
     }
 
@@ -204,6 +205,37 @@ public final class EdgePlacesTest extends Edge {
         due("at the beginning", s.stat(0, "/a"), ELEMENT);
         s.dueSent("one walk", 0, 1);
         s.dueHandles("all stay", 3, 3);
+    }
+
+    /* /a has itself, server 1's root and /b as members, of which /b is gone; /c has nothing but server 1's root. */
+    private static void nothingLeft() {
+        Session s = new Session().directories("/a", "/b", "/c", "/a/d").files("/a/f");
+        s.mount(0, 1, "/a", 2);
+        s.bind(0, "/b", "/a", 2);
+        s.mount(0, 1, "/c", 0);
+        s.remove(0, "/b");
+        String[] paths = {"/", "/a", "/c", "/a/d", "/a/f", "/a/h", "/c/h", "/h", "/a/f/h", "/a/d/h", "/h/h"};
+        for (String path : paths) {
+            s.stat(0, path);
+            s.dueHandles("stat of " + path, 3, 3);
+            int number = s.open(0, path, 1);
+            if (number >= 0) {
+                s.close(0, number);
+            }
+            s.dueHandles("open of " + path, 3, 3);
+        }
+        for (String path : new String[] {"/", "/a", "/a/f", "/a/f/h", "/c/h", "/h/h"}) {
+            s.file(0, path);
+            s.dueHandles("create of " + path, 3, 3);
+            s.bind(0, path, "/h", 0);
+            s.dueHandles("bind of " + path, 3, 3);
+            s.bind(0, path, "/a", 2);
+            s.dueHandles("bind of " + path + " as a fourth", 3, 3);
+        }
+        for (String path : new String[] {"/", "/a/d", "/a/f", "/a/f/h", "/h"}) {
+            s.unmount(0, path);
+            s.dueHandles("unmount of " + path, 3, 3);
+        }
     }
 
     private static void lastError() {
